@@ -213,6 +213,9 @@ public final class ForetoldTest {
         AllSworn z = Due.told("b9;l0,4;l0,4;h1;h2;");
         due.is("none helps", z.defended(0, 0), 0);
         due.is("as it was", z.defended(0, 1), 4);
+        AllSworn w = Due.told("b9;l0,20;p0,20;p0,20;p0,20;p0,20;p0,20;p0,20;p0,20;h255;");
+        due.is("NONE is more than the dearest", w.defended(0, 0), 1);
+        due.is("that is NONE", w.defended(0, 1), Due.NONE);
     }
 
     private static void defendedLater() {

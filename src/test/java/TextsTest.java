@@ -8,6 +8,7 @@ public final class TextsTest {
         faults();
         roomForThings();
         roomForHarms();
+        shorterTexts();
         faultKeepsAll();
         readStandsInPlace();
         due.end();
@@ -132,6 +133,21 @@ public final class TextsTest {
         wrong(eight + "h", 32, 3);
         wrong(eight + "p", 32, 1);
         wrong(eight + ";", 32, 1);
+    }
+
+    /** Bytes of a longer text before are no part of a shorter one. */
+    private static void shorterTexts() {
+        AllSworn x = new AllSworn();
+        String whole = "b12;p2,15;h1;";
+        Due.feed(x, whole);
+        x.realm();
+        for (int n = 0; n < whole.length(); n++) {
+            Due.feed(x, whole.substring(0, n));
+            boolean good = n == 4 || n == 10;
+            due.is(n + " bytes", x.realm(), good ? n / 10 : Due.FAULTS - n);
+            Due.feed(x, whole);
+            due.is("the whole", x.realm(), 1);
+        }
     }
 
     private static void faultKeepsAll() {
