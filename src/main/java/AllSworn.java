@@ -563,12 +563,13 @@ public final class AllSworn {
             }
             int start = at;
             int value = 0;
-            // A fourth figure begins another NUMBER, which then stands where none can.
-            for (int k = 0; k < FIGURES && next() >= '0' && next() <= '9'; k++) {
+            // Figures side by side are one NUMBER: of too many the value may wrap around, but is not looked at.
+            for (int k = 0; k < TAPE && next() >= '0' && next() <= '9'; k++) {
                 value = value * 10 + (next() - '0');
                 at++;
             }
-            if (at == start) {
+            int figures = at - start;
+            if (figures == 0 || figures > FIGURES) {
                 note(MISPLACED, start);
             } else if (value < least || value > most) {
                 note(NOT_AS_TOLD, start);

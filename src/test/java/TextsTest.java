@@ -6,6 +6,7 @@ public final class TextsTest {
         feed();
         goodTexts();
         faults();
+        tooManyFigures();
         roomForThings();
         roomForHarms();
         shorterTexts();
@@ -96,9 +97,32 @@ public final class TextsTest {
         wrong("b1;p0,0;h1;h", 12, 1);
         wrong("b41#", 1, 2);
         wrong("b1;p10,21;h9", 4, 2);
-        // A fourth figure is another NUMBER.
-        wrong("b0010;", 4, 1);
-        wrong("b1000;", 1, 2);
+    }
+
+    /** Figures side by side are one NUMBER, and more than three of them are none: FAULT 1 at the first. */
+    private static void tooManyFigures() {
+        String things = "b12;p2,15;m9,020;";
+        for (String figures : new String[] {"0001", "0000", "1000", "0012", "00001", "999999", "4294967297"}) {
+            wrong("b" + figures, 1, 1);
+            wrong("b" + figures + ";", 1, 1);
+            wrong("b" + figures + "#", 1, 1);
+            wrong("b12;p" + figures + ",5;", 5, 1);
+            wrong("b12;p2," + figures + ";", 7, 1);
+            wrong(things + "h" + figures + ";", 18, 1);
+            wrong(things + "h3;h" + figures, 21, 1);
+            wrong(figures + ";", 0, 1);
+            wrong("b12;" + figures, 4, 1);
+            wrong("b12" + figures + ";", 1, 1);
+            wrong("b41;p" + figures + ",5;", 1, 2);
+        }
+        wrong("b" + "1".repeat(119), 1, 1);
+        wrong("b" + "0".repeat(118) + "1", 1, 1);
+        wrong("b12;p2,15;h" + "0".repeat(109), 11, 1);
+        good("b012;p009,020;h001;", 12, 1, 1);
+        wrong("b041;", 1, 2);
+        wrong("b12;p010,0;", 5, 2);
+        wrong("b12;p0,021;", 7, 2);
+        wrong("b12;p0,0;h002;", 10, 2);
     }
 
     private static void wrong(String text, int place, int number) {
