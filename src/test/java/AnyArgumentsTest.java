@@ -3,7 +3,6 @@ import java.util.Random;
 /** Whatever the arguments and the state: no call throws, each ends, and the same calls give the same answers. */
 public final class AnyArgumentsTest {
     private static final Due due = new Due("AnyArgumentsTest");
-    private static final int CALLS = 512;
     private static final String LETTERS = "bpmyflh,;0123456789";
     private static final String[] TEXTS = {
         "b12;p2,5;m1,7;y0,3;f1,9;l2,2;p3,20;h3;h12;h20;h34;h40;",
@@ -22,9 +21,9 @@ public final class AnyArgumentsTest {
         AllSworn x = new AllSworn();
         long all = 0;
         int calls = 0;
-        while (calls < CALLS) {
-            if (random.nextInt(40) == 0) {
-                String text = TEXTS[random.nextInt(TEXTS.length)];
+        while (calls < Run.CALLS) {
+            String text = TEXTS[random.nextInt(TEXTS.length)];
+            if (random.nextInt(40) == 0 && calls + text.length() < Run.CALLS) {
                 Due.feed(x, text);
                 calls += text.length();
             }

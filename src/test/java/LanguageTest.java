@@ -25,6 +25,7 @@ public final class LanguageTest {
         constants();
         nestedClasses();
         words();
+        names();
         methodsAreShort();
         due.end();
     }
@@ -82,15 +83,25 @@ public final class LanguageTest {
             due.holds(c + " is static", c == AllSworn.class || Modifier.isStatic(c.getModifiers()));
             int fields = 0;
             for (Field f : c.getDeclaredFields()) {
-                due.holds(f + ", if static, is final", !Modifier.isStatic(f.getModifiers())
-                    || Modifier.isFinal(f.getModifiers()));
+                due.holds(f + ", if static, is a constant", !Modifier.isStatic(f.getModifiers())
+                    || Modifier.isFinal(f.getModifiers()) && f.getType() == int.class);
                 fields += Modifier.isStatic(f.getModifiers()) ? 0 : 1;
             }
             due.holds(c + " has twenty fields at most", fields <= 20);
             for (Method m : c.getDeclaredMethods()) {
                 due.holds(m + " takes seven at most", m.getParameterCount() <= 7);
+                due.holds(m + " has a name of its own", c == AllSworn.class || !isOfTheFace(m.getName()));
             }
         }
+    }
+
+    private static boolean isOfTheFace(String name) {
+        for (String each : FACE) {
+            if (each.startsWith(name + "/")) {
+                return true;
+            }
+        }
+        return false;
     }
 
     private static String source() throws IOException {
@@ -101,8 +112,8 @@ public final class LanguageTest {
     private static void words() throws IOException {
         String source = source();
         String[] forbidden = {"throw", "throws", "try", "catch", "finally", "synchronized", "assert", "native",
-            "package", "var", "hashCode", "toString", "Random", "Thread", "System\\.(?!arraycopy)", "Exact\\(",
-            "Integer\\.(?!bitCount\\()", "Math\\.(?!max\\()", "import (?!java\\.util\\.Arrays;)", "->", "::", "@"};
+            "package", "var", "while", "do", "hashCode", "toString", "Random", "Thread", "System\\.(?!arraycopy)",
+            "Exact\\(", "Integer\\.(?!bitCount\\()", "Math\\.(?!max\\()", "import (?!java\\.util\\.Arrays;)", "->", "::", "@"};
         for (String word : forbidden) {
             boolean plain = word.matches("[A-Za-z]+");
             Matcher found = Pattern.compile(plain ? "\\b" + word + "\\b" : word).matcher(source);
@@ -111,6 +122,19 @@ public final class LanguageTest {
         due.holds("a parser of the words sees something", source.contains("public final class AllSworn"));
         for (int i = 0; i < source.length(); i++) {
             due.holds("sign " + i + " is plain", source.charAt(i) < 128 && source.charAt(i) != '\t');
+        }
+    }
+
+    /** Of the library nothing is used but what rule 4 tells; all other names are of classes inside, or of constants. */
+    private static void names() throws IOException {
+        Set<String> known = new HashSet<>(List.of("AllSworn", "Arrays", "System", "Math", "Integer"));
+        for (Class<?> c : AllSworn.class.getDeclaredClasses()) {
+            known.add(c.getSimpleName());
+        }
+        Matcher name = Pattern.compile("\\b[A-Z]\\w*").matcher(source());
+        while (name.find()) {
+            boolean isConstant = name.group().matches("[A-Z][A-Z_]+");
+            due.holds(name.group() + " is known", isConstant || known.contains(name.group()));
         }
     }
 

@@ -270,27 +270,40 @@ public final class ModelTest {
     private static World w;
     private static final List<World> past = new ArrayList<>();
     private static final World[] images = new World[2];
+    private static int readings;
 
     public static void main(String[] args) {
-        for (int run = 0; run < 600; run++) {
+        for (int run = 0; run < 16000; run++) {
             run();
         }
         due.end();
     }
 
+    /** Two texts, the steps and all that is checked behind them are less than the 512 calls that are promised. */
     private static void run() {
         AllSworn x = new AllSworn();
         past.clear();
         images[0] = null;
         images[1] = null;
+        readings = 0;
         readAnew(x);
-        for (int step = 0; step < 40; step++) {
-            act(x);
-            check(x);
+        // Some runs begin so late that DAY 999 is near.
+        int start = random.nextInt(8) == 0 ? 940 + random.nextInt(60) : 0;
+        while (w.day < start) {
+            waits(x, Math.min(60, start - w.day));
         }
+        int steps = random.nextInt(50);
+        for (int step = 0; step < steps; step++) {
+            act(x);
+        }
+        check(x);
     }
 
     private static void readAnew(AllSworn x) {
+        if (readings == 2) {
+            return;
+        }
+        readings++;
         do {
             w = new World();
             w.term = 1 + random.nextInt(random.nextBoolean() ? 40 : 15);
@@ -330,13 +343,7 @@ public final class ModelTest {
             keep(before);
             due.is("tries(" + h + ")", x.tries(h), hit);
         } else if (choice < 80) {
-            int n = 1 + random.nextInt(random.nextInt(4) == 0 ? 60 : 6);
-            boolean full = w.day + n > 999;
-            if (!full) {
-                w.day += n;
-                keep(before);
-            }
-            due.is("waits(" + n + ")", x.waits(n), full ? Due.FULL : w.day);
+            waits(x, 1 + random.nextInt(random.nextInt(4) == 0 ? 60 : 6));
         } else if (choice < 92) {
             if (past.isEmpty()) {
                 due.is("undo()", x.undo(), Due.STATE);
@@ -358,6 +365,16 @@ public final class ModelTest {
         } else {
             readAnew(x);
         }
+    }
+
+    private static void waits(AllSworn x, int n) {
+        World before = w.twin();
+        boolean full = w.day + n > 999;
+        if (!full) {
+            w.day += n;
+            keep(before);
+        }
+        due.is("waits(" + n + ")", x.waits(n), full ? Due.FULL : w.day);
     }
 
     private static void keep(World before) {
